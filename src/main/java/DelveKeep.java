@@ -577,8 +577,10 @@ public final class DelveKeep {
             int dx = other / SIDE - x;
             int dy = other % SIDE - y;
             int width = Math.abs(dx) + Math.abs(dy);
-            for (int cx = Math.min(x, x + dx); cx <= Math.max(x, x + dx); cx++) {
-                for (int cy = Math.min(y, y + dy); cy <= Math.max(y, y + dy); cy++) {
+            int lastX = Math.max(x, x + dx);
+            int lastY = Math.max(y, y + dy);
+            for (int cx = Math.min(x, x + dx); cx <= lastX; cx++) {
+                for (int cy = Math.min(y, y + dy); cy <= lastY; cy++) {
                     int third = spot(cx, cy);
                     int off = Math.abs(dx * (cy - y) - dy * (cx - x));
                     if (2 * off < width && third != one && third != other && !isFreeAt(third)) {
@@ -618,7 +620,7 @@ public final class DelveKeep {
                 }
                 for (int way = 0; way < WAYS && wait == 0 && cost < most; way++) {
                     int next = beside(spot, way);
-                    int toll = toll(signAt(next), shut, locks);
+                    int toll = tollOf(signAt(next), shut, locks);
                     if (toll > 0 && at(row, next) == NONE) {
                         put(row, next, cost + toll);
                         put(delay, next, toll - 1);
@@ -630,7 +632,7 @@ public final class DelveKeep {
         }
 
         // No way leads through a cell whose toll is 0.
-        private static int toll(int sign, int shut, int locks) {
+        private static int tollOf(int sign, int shut, int locks) {
             switch (sign) {
                 case '.':
                 case '~':

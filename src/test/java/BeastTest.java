@@ -10,6 +10,7 @@ public final class BeastTest {
         goesByTheLowestWay();
         goesRoundWhatIsShut();
         opensDoors();
+        findsNewWays();
         waitsBehindOthers();
         strikes();
         flees();
@@ -148,6 +149,34 @@ public final class BeastTest {
         lower.begin(0);
         lower.shout(30);
         Check.is("by the nearest way, through a door", lower.cell(0, 1), '/');
+    }
+
+    /** Distances are those of the cells as they are now. */
+    private static void findsNewWays() {
+        DelveKeep lock = Keeps.dug("@0..");
+        lock.addThing(0, 0, 0, -1);
+        lock.addBeast(3, 0, 12, 0, 30);
+        lock.begin(0);
+        lock.take(0);
+        lock.shout(30);
+        lock.rest();
+        Check.is("no way yet", lock.placeOf(1), 300);
+        lock.go(1);
+        Check.is("a way through the lock that was opened", lock.placeOf(1), 200);
+        lock.leave();
+        lock.begin(0);
+        lock.shout(30);
+        Check.is("no way in the next world", lock.placeOf(1), 300);
+        lock.leave();
+        lock.dig(1, 0, '.');
+        lock.begin(0);
+        lock.shout(30);
+        Check.is("a way that is told", lock.placeOf(1), 200);
+        DelveKeep tie = Keeps.dug("@+", "..");
+        tie.addBeast(1, 1, 12, 0, 1);
+        tie.begin(0);
+        tie.rest();
+        Check.is("a door is as near as a free cell", tie.cell(1, 0), '/');
     }
 
     private static void waitsBehindOthers() {
@@ -335,6 +364,21 @@ public final class BeastTest {
         about.begin(0);
         Check.is("round the doors 4 is not enough", about.shout(4), 0);
         Check.is("round the doors it is 5", about.shout(5), 1);
+        DelveKeep both = Keeps.dug("@+..+.", "....#.", "....#.", "......");
+        both.addBeast(5, 0, 1, 0, 30);
+        both.begin(0);
+        Check.is("the doors and the way round are as long", both.shout(8), 0);
+        Check.is("9 steps", both.shout(9), 1);
+        DelveKeep twice = Keeps.dug("@+2.....", "..#####.", "........");
+        twice.addBeast(7, 0, 1, 0, 30);
+        twice.begin(0);
+        Check.is("round two doors or through them", twice.shout(10), 0);
+        Check.is("11 steps", twice.shout(11), 1);
+        DelveKeep shorter = Keeps.dug("@+++.", ".###.", ".....");
+        shorter.addBeast(4, 0, 1, 0, 30);
+        shorter.begin(0);
+        Check.is("round three doors it is shorter", shorter.shout(7), 0);
+        Check.is("8 steps", shorter.shout(8), 1);
         DelveKeep three = Keeps.dug("@+01.");
         three.addBeast(4, 0, 1, 0, 30);
         three.begin(0);

@@ -170,7 +170,23 @@ public final class ToldTest {
         Check.refused("P5 on, place first", keep, NO_PLACE, () -> keep.setHero(0, -1, 12, 30));
         DelveKeep fresh = Keeps.dug(".");
         Check.is("P5 speed at first", fresh.begin(0), 1);
-        Check.is("P5 speed at first, further", fresh.rest(), 2);
+        for (int turn = 2; turn < 40; turn++) {
+            Check.is("P5 speed at first, turn " + turn, fresh.rest(), turn);
+        }
+        DelveKeep healed = Keeps.dug(".");
+        healed.setEffect(3, 'd', 20, 0);
+        healed.setEffect(4, 'h', 20, 0);
+        for (int kind : new int[] {3, 4, 4}) {
+            healed.addThing(kind, 0, 0, -1);
+        }
+        healed.begin(0);
+        for (int thing = 0; thing < 3; thing++) {
+            healed.take(thing);
+        }
+        Check.is("P5 health at first, harmed", healed.drink(0), 10);
+        Check.is("P5 health at first, a third of it", healed.pray(), -1);
+        healed.drink(1);
+        Check.is("P5 health at first, healed", healed.drink(2), 30);
     }
 
     private static void promise6AddBeast() {

@@ -134,6 +134,14 @@ public final class WorldTest {
         keep.leave();
         keep.setKind(0, 1, false);
         Check.is("P9 all as told", Keeps.all(keep), told);
+        keep.setEffect(5, 's', 4, 0);
+        keep.begin(3);
+        keep.take(2);
+        keep.drink(2);
+        Check.is("P9 slow", keep.rest(), 8);
+        keep.leave();
+        Check.is("P9 slow no more", keep.begin(3), 1);
+        Check.is("P9 nor later", keep.rest(), 2);
     }
 
     private static void promise10Leave() {
@@ -477,6 +485,22 @@ public final class WorldTest {
         keep.begin(0);
         Check.is("bones: the hero who died last had nothing", keep.whereIs(1), 0);
         Check.is("bones: nor the key", keep.whereIs(2), 0);
+        DelveKeep lowest = Keeps.dug("@..");
+        lowest.setHero(0, 0, 12, 20);
+        lowest.setEffect(3, 'd', 20, 0);
+        for (int thing = 0; thing < 24; thing++) {
+            lowest.addThing(thing == 1 ? 3 : 0, 0, 0, -1);
+        }
+        lowest.begin(0);
+        for (int thing : new int[] {0, 1, 23}) {
+            lowest.take(thing);
+        }
+        lowest.go(1);
+        lowest.drink(1);
+        lowest.begin(0);
+        Check.is("bones: the first thing", lowest.whereIs(0), 100);
+        Check.is("bones: the last thing", lowest.whereIs(23), 100);
+        Check.is("bones: another thing", lowest.whereIs(2), 0);
         DelveKeep early = Keeps.dug("@.");
         early.addThing(7, 0, 0, -1);
         early.setHero(0, 0, 1, 1);
@@ -531,6 +555,24 @@ public final class WorldTest {
         dead.take(0);
         dead.drink(0);
         Check.is("P32 dead with bones", dead.isSame(), true);
+        DelveKeep laden = Keeps.dug("@...");
+        laden.setHero(0, 0, 12, 20);
+        laden.setEffect(3, 'd', 20, 0);
+        for (int kind : new int[] {3, 6, 7, 0}) {
+            laden.addThing(kind, 0, 0, -1);
+        }
+        laden.begin(0);
+        for (int thing = 0; thing < 4; thing++) {
+            laden.take(thing);
+        }
+        laden.pack(2, 1);
+        laden.go(1);
+        laden.drink(0);
+        Check.is("P32 dead, laden", laden.isSame(), true);
+        laden.begin(0);
+        laden.go(1);
+        laden.take(1);
+        Check.is("P32 the bones taken up", laden.isSame(), true);
         Check.thrown("P32 no place", NO_PLACE, () -> dead.cell(12, 0));
     }
 }
