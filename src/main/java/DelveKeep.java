@@ -498,16 +498,16 @@ public final class DelveKeep {
         }
     }
 
-    private static int acrossX(int one, int other) {
-        return Math.abs(one / SIDE - other / SIDE);
-    }
-
-    private static int acrossY(int one, int other) {
-        return Math.abs(one % SIDE - other % SIDE);
+    private static boolean areNeighbours(int one, int other) {
+        int across = one / SIDE - other / SIDE;
+        int down = one % SIDE - other % SIDE;
+        return across * across + down * down == 1;
     }
 
     private static int gap(int one, int other) {
-        return Math.max(acrossX(one, other), acrossY(one, other));
+        int across = Math.abs(one / SIDE - other / SIDE);
+        int down = Math.abs(one % SIDE - other % SIDE);
+        return Math.max(across, down);
     }
 
     private static boolean isPotion(int kind) {
@@ -983,8 +983,8 @@ public final class DelveKeep {
         boolean light(int spot, Cave cave) {
             for (int i = 0; i < count; i++) {
                 int lamp = at(place, i);
-                int dx = acrossX(lamp, spot);
-                int dy = acrossY(lamp, spot);
+                int dx = lamp / SIDE - spot / SIDE;
+                int dy = lamp % SIDE - spot % SIDE;
                 int reach = at(radius, i);
                 if (dx * dx + dy * dy <= reach * reach && cave.seeEachOther(lamp, spot)) {
                     return true;
@@ -1184,9 +1184,7 @@ public final class DelveKeep {
             int kind = at(things.kind, thing);
             useUp(thing);
             work(kind, HERO);
-            if (kinds.effectOf(kind) == 'f') {
-                burn(heroSpot(), 0);
-            }
+            burnBy(kind, heroSpot(), 0);
             return at(creatures.health, HERO);
         }
 
@@ -1203,6 +1201,7 @@ public final class DelveKeep {
             int kind = at(things.kind, thing);
             if (isPotion(kind)) {
                 shatter(thing, spot);
+                burnBy(kind, spot, at(kinds.radius, kind));
                 makeNoise(spot, BLOW_NOISE);
             } else if (kind == BLADE && isHit) {
                 strike(creatures.livingAt(spot), 4);
@@ -1219,9 +1218,6 @@ public final class DelveKeep {
                 if (creatures.lives(i) && gap(at(creatures.place, i), spot) <= reach) {
                     work(kind, i);
                 }
-            }
-            if (kinds.effectOf(kind) == 'f') {
-                burn(spot, reach);
             }
         }
 
@@ -1250,7 +1246,10 @@ public final class DelveKeep {
             }
         }
 
-        private void burn(int spot, int reach) {
+        private void burnBy(int potion, int spot, int reach) {
+            if (kinds.effectOf(potion) != 'f') {
+                return;
+            }
             for (int i = 0; i < things.count; i++) {
                 int where = at(things.place, i);
                 if (where >= 0 && gap(where, spot) <= reach && kinds.isWooden(at(things.kind, i))) {
@@ -1306,7 +1305,7 @@ public final class DelveKeep {
             cave.aimAt(aim);
             if (creatures.isWeak(beast)) {
                 flee(beast);
-            } else if (acrossX(here, hero) + acrossY(here, hero) == 1) {
+            } else if (areNeighbours(here, hero)) {
                 creatures.harm(HERO, at(creatures.strength, beast));
                 makeNoise(hero, BLOW_NOISE);
             } else {
