@@ -25,6 +25,29 @@ final class Keeps {
         return dug(row, row, row, row, row, row, row, row, row, row, row, row);
     }
 
+    /** The cells of a way that winds through the whole cave, 77 of them, as 100 x + y. */
+    static int[] winding() {
+        int[] way = new int[77];
+        int count = 0;
+        for (int y = 0; y < 12; y += 2) {
+            for (int step = 0; step < 12; step++) {
+                way[count++] = 100 * (y % 4 == 0 ? step : 11 - step) + y;
+            }
+            if (y < 10) {
+                way[count++] = (y % 4 == 0 ? 1100 : 0) + y + 1;
+            }
+        }
+        return way;
+    }
+
+    static DelveKeep wound(int[] way) {
+        DelveKeep keep = new DelveKeep();
+        for (int place : way) {
+            keep.dig(place / 100, place % 100, '.');
+        }
+        return keep;
+    }
+
     static void rest(DelveKeep keep, int turns) {
         for (int i = 0; i < turns; i++) {
             keep.rest();
