@@ -10,6 +10,7 @@ public final class BeastEdgesTest {
 
     public static void main(String[] args) {
         noneToSeven();
+        eachOfSevenIsItsOwn();
         strengthsFrom0To9();
         healthsFrom1To30();
         aimsComeWithATurn();
@@ -18,6 +19,7 @@ public final class BeastEdgesTest {
         aimsAreKeptWhereTheHeroIsSeen();
         aimsAreLostWhereAPotionBroke();
         distancesAreLong();
+        distancesCountDoorsAsOne();
         distancesLeaveLocksOut();
         lowestOfTheNearest();
         takenCellsAreLeftOut();
@@ -41,21 +43,72 @@ public final class BeastEdgesTest {
         Check.refused("none: aim", none, IndexOutOfBoundsException.class, () -> none.aimOf(1));
         for (int beasts = 1; beasts <= 7; beasts++) {
             DelveKeep keep = Keeps.open();
-            keep.setHero(0, 0, 12, 99);
+            keep.setHero(3, 0, 12, 99);
             for (int beast = 1; beast <= beasts; beast++) {
                 String label = beasts + " beasts, " + beast;
                 Check.is(label, keep.addBeast(11, beast, 12, beast, 3 * beast), beast);
+                Check.is(label + ", no aim as told", Keeps.aim(keep, beast), -1);
             }
             keep.begin(0);
+            for (int beast = 1; beast <= beasts; beast++) {
+                Check.is(beasts + " beasts, " + beast + ", no aim yet", Keeps.aim(keep, beast), -1);
+            }
             keep.rest();
             for (int beast = 1; beast <= beasts; beast++) {
                 String label = beasts + " beasts, " + beast;
                 Check.is(label + ", health", keep.healthOf(beast), 3 * beast);
-                Check.is(label + ", aim", Keeps.aim(keep, beast), 0);
-                Check.is(label + ", place", keep.placeOf(beast), beast == 1 ? 1100 : 1100 + beast - 1);
+                Check.is(label + ", aim", Keeps.aim(keep, beast), 300);
+                Check.is(label + ", place", keep.placeOf(beast), 1100 + beast - 1);
             }
             Check.is(beasts + " beasts and no more", Keeps.creatures(keep), beasts + 1);
         }
+    }
+
+    /** One beast of seven is beside the hero: its strength, its speed, its health, its fear and its haste. */
+    private static void eachOfSevenIsItsOwn() {
+        for (int one = 1; one <= 7; one++) {
+            int strength = one + 2;
+            DelveKeep keep = oneBeside(one, 'h', 1);
+            Keeps.rest(keep, 3);
+            Check.is("blows of one of seven, " + one, keep.healthOf(0), 99 - 6 * strength);
+            DelveKeep afraid = oneBeside(one, 'd', 15);
+            Keeps.rest(afraid, 3);
+            Check.is("health of one of seven, " + one, afraid.healthOf(one), 5 + one);
+            boolean isAfraid = 3 * (5 + one) < 20 + one;
+            int due = 99 - (isAfraid ? 2 : 6) * strength;
+            Check.is("fear of one of seven, " + one, afraid.healthOf(0), due);
+            DelveKeep healed = oneBeside(one, 'h', 20);
+            healed.go(1);
+            Check.is("struck, one of seven, " + one, healed.healthOf(one), 17 + one);
+            healed.hurl(1, 1);
+            Check.is("healed, one of seven, " + one, healed.healthOf(one), 20 + one);
+            DelveKeep slow = oneBeside(one, 's', 1);
+            int[] blows = {3, 3, 3, 3, 3, 3, 3, 3, 3, 3, 3, 3, 4, 5, 6};
+            for (int turn = 0; turn < blows.length; turn++) {
+                String label = "slow, one of seven, " + one + ", turn " + turn;
+                Check.is(label, slow.healthOf(0), 99 - blows[turn] * strength);
+                slow.rest();
+            }
+        }
+    }
+
+    /** A beast of a number beside the hero, hit by a potion in the third tick; the others cannot come. */
+    private static DelveKeep oneBeside(int one, char effect, int n) {
+        DelveKeep keep = Keeps.dug("#@.#", "####", ".......");
+        keep.setHero(1, 0, 12, 99);
+        keep.setEffect(3, effect, n, 0);
+        keep.addThing(3, 1, 0, -1);
+        keep.addThing(3, 1, 0, -1);
+        for (int beast = 1; beast <= 7; beast++) {
+            boolean isOne = beast == one;
+            keep.addBeast(isOne ? 2 : beast - 1, isOne ? 0 : 2, isOne ? 12 : 1, beast + 2, 20 + beast);
+        }
+        keep.begin(0);
+        keep.take(0);
+        keep.take(1);
+        Check.is("struck twice", keep.healthOf(0), 99 - 2 * (one + 2));
+        keep.hurl(0, 1);
+        return keep;
     }
 
     private static void strengthsFrom0To9() {
@@ -221,6 +274,32 @@ public final class BeastEdgesTest {
         for (int place : way) {
             Check.is("reachable " + place, reach.isReachable(place / 100, place % 100), true);
         }
+    }
+
+    /** A closed door is one step, as a free cell is: the way through doors is taken where it is the shorter one. */
+    private static void distancesCountDoorsAsOne() {
+        DelveKeep shorter = Keeps.dug("@++.", ".##.", "....");
+        shorter.addBeast(3, 0, 12, 0, 1);
+        shorter.begin(0);
+        shorter.shout(30);
+        Check.is("3 through two doors, 7 about", shorter.cell(2, 0), '/');
+        DelveKeep equal = Keeps.dug(".+.", "@#.", "...");
+        equal.setHero(0, 1, 12, 30);
+        equal.addBeast(2, 1, 12, 0, 1);
+        equal.begin(0);
+        equal.shout(30);
+        Check.is("4 both ways, the lowest is taken", equal.placeOf(1), 200);
+        DelveKeep longer = Keeps.dug("@...", "+##+", "++++");
+        longer.addBeast(3, 0, 12, 0, 1);
+        longer.begin(0);
+        longer.shout(30);
+        Check.is("3 over floor, 7 through doors", longer.placeOf(1), 200);
+        DelveKeep shut = Keeps.dug("@###", "+++.");
+        shut.addBeast(3, 1, 12, 0, 1);
+        shut.begin(0);
+        Check.is("through doors alone it is heard", shut.shout(30), 1);
+        Check.is("the last door is opened first", shut.cell(2, 1), '/');
+        Check.is("the others are closed still", shut.cell(1, 1), '+');
     }
 
     /** "... over free cells and closed doors": never over locked ones, though their keys lie by. */
@@ -438,6 +517,9 @@ public final class BeastEdgesTest {
                 Check.is(label + " stays", keep.placeOf(1) == 505 + 100 * dx + dy, isBeside);
             }
         }
+        for (int spot = 0; spot < 144; spot++) {
+            strikesAround(spot / 12, spot % 12);
+        }
         for (int way = 0; way < 4; way++) {
             DelveKeep keep = Keeps.open();
             keep.setHero(5, 5, 12, 30);
@@ -451,6 +533,23 @@ public final class BeastEdgesTest {
             }
             Check.is("struck by way " + way, keep.go(way), 'a');
             Check.is("3 less by way " + way, keep.healthOf(1), 1);
+        }
+    }
+
+    private static void strikesAround(int x, int y) {
+        for (int dx = -1; dx <= 1; dx++) {
+            for (int dy = -1; dy <= 1; dy++) {
+                boolean isInside = Math.min(x + dx, y + dy) >= 0 && Math.max(x + dx, y + dy) <= 11;
+                if ((dx != 0 || dy != 0) && isInside) {
+                    DelveKeep keep = Keeps.open();
+                    keep.setHero(x, y, 12, 30);
+                    keep.addBeast(x + dx, y + dy, 12, 4, 1);
+                    keep.begin(0);
+                    keep.rest();
+                    String label = "at " + x + " " + y + ", a beast off by " + dx + " " + dy;
+                    Check.is(label, keep.healthOf(0), dx == 0 || dy == 0 ? 26 : 30);
+                }
+            }
         }
     }
 

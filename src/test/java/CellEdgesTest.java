@@ -14,10 +14,12 @@ public final class CellEdgesTest {
         thereAreEightSigns();
         whatIsFree();
         theFourWays();
+        eachCellHasItsNeighbours();
         nothingGoesOverAnEdge();
         nothingWorksOverAnEdge();
         toldWhenNoWorldIsOn();
         askedAsOfTheWorldThatWasOnLast();
+        tellingAnswersWhatWasTold();
         whatIsRefusedEndsNothing();
         linesAreCutByCells();
         bordersAreLeftOut();
@@ -25,6 +27,7 @@ public final class CellEdgesTest {
         whatStandsThereDoesNotMatter();
         lampsReachTheirRadius();
         lampsAreNoneToFour();
+        lampsNeedALine();
         lampsInRock();
         inTheDark();
         Check.end();
@@ -126,6 +129,26 @@ public final class CellEdgesTest {
             keep.begin(0);
             Check.is("way " + way, keep.go(way), 'm');
             Check.is("way " + way + " leads to", keep.placeOf(0), due[way]);
+        }
+    }
+
+    /** Each of the four ways from each of the 144 cells. */
+    private static void eachCellHasItsNeighbours() {
+        DelveKeep keep = Keeps.open();
+        int[] dx = {0, 1, 0, -1};
+        int[] dy = {-1, 0, 1, 0};
+        for (int spot = 0; spot < 576; spot++) {
+            int x = spot / 48;
+            int y = spot / 4 % 12;
+            int nextX = x + dx[spot % 4];
+            int nextY = y + dy[spot % 4];
+            boolean isThere = nextX >= 0 && nextX <= 11 && nextY >= 0 && nextY <= 11;
+            keep.setHero(x, y, 12, 30);
+            keep.begin(0);
+            String label = "from " + x + " " + y + " by " + spot % 4;
+            Check.is(label, keep.go(spot % 4), isThere ? 'm' : 'b');
+            Check.is(label + ", place", keep.placeOf(0), isThere ? 100 * nextX + nextY : 100 * x + y);
+            keep.leave();
         }
     }
 
@@ -330,6 +353,29 @@ public final class CellEdgesTest {
         Check.is("mean, " + when, keep.meanHealth(), 12.0);
     }
 
+    /** What a telling answers is what was told before, not what became of it in a world. */
+    private static void tellingAnswersWhatWasTold() {
+        for (int end = 0; end < 2; end++) {
+            Check.is("dig", ended(end).dig(1, 0, '.'), '+');
+            Check.is("setHero", ended(end).setHero(0, 0, 12, 7), 20);
+            Check.is("setKind", ended(end).setKind(6, 0, false), 1);
+            Check.is("setEffect", ended(end).setEffect(4, 'h', 1, 0), 'd');
+            Check.is("addBeast", ended(end).addBeast(3, 0, 1, 1, 1), 2);
+            Check.is("addThing into a bag", ended(end).addThing(7, 0, 0, 0), 3);
+            Check.is("addLamp", ended(end).addLamp(0, 0, 0), 1);
+        }
+    }
+
+    private static DelveKeep ended(int end) {
+        DelveKeep keep = played();
+        if (end == 0) {
+            keep.leave();
+        } else {
+            keep.drink(2);
+        }
+        return keep;
+    }
+
     private static void whatIsRefusedEndsNothing() {
         DelveKeep keep = played();
         keep.leave();
@@ -483,6 +529,19 @@ public final class CellEdgesTest {
             }
         }
         Check.refused("a fifth lamp", keep, NOT_NOW, () -> keep.addLamp(0, 0, 0));
+    }
+
+    /** "it lights the cells that it and they see each other with", whether or not the hero sees the lamp */
+    private static void lampsNeedALine() {
+        for (char sign : SIGNS.toCharArray()) {
+            DelveKeep keep = Keeps.dug("@....", ".###.", "...." + sign, ".....");
+            keep.addLamp(4, 3, 9);
+            keep.begin(0);
+            boolean isFree = ".~/".indexOf(sign) >= 0;
+            Check.is("the hero sees no lamp", keep.see(0, 0, 4, 3), false);
+            Check.is("a lamp behind " + sign, keep.heroSees(4, 0), isFree);
+            Check.is("a lamp beside " + sign, keep.heroSees(0, 3), true);
+        }
     }
 
     private static void lampsInRock() {

@@ -8,6 +8,7 @@ public final class EffectEdgesTest {
         allEffectsOfAllPotions();
         healsUpToWhatItWasFirst();
         healsBeasts();
+        theDeadFeelNothing();
         harmsToNothingAndBelow();
         harmsByRadius();
         harmsThroughRock();
@@ -120,6 +121,23 @@ public final class EffectEdgesTest {
             keep.hurl(0, 1);
             keep.hurl(1, 1);
             Check.is("a beast healed of " + harm, keep.healthOf(1), Math.min(30, 40 - harm));
+        }
+    }
+
+    /** "on all living creatures": what is dead, at 0 or below, is neither healed nor harmed. */
+    private static void theDeadFeelNothing() {
+        for (char effect : "hd".toCharArray()) {
+            for (int health = 2; health <= 3; health++) {
+                DelveKeep keep = potions(30, 1, "@.");
+                keep.setEffect(3, effect, 20, 0);
+                keep.addBeast(1, 0, 1, 0, health);
+                keep.begin(0);
+                takeAll(keep);
+                keep.go(1);
+                Check.is("dead", keep.healthOf(1), health - 3);
+                Check.is("it breaks on the dead", keep.hurl(0, 1), 1);
+                Check.is("the dead feel no " + effect, keep.healthOf(1), health - 3);
+            }
         }
     }
 

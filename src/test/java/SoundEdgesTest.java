@@ -9,6 +9,7 @@ public final class SoundEdgesTest {
         upToThirtyThroughDoors();
         theCellInWhichOneComesCounts();
         theShortestWayCounts();
+        doorsAllOver();
         noWayNoSound();
         allSevenHear();
         theDeadDoNotHear();
@@ -116,8 +117,37 @@ public final class SoundEdgesTest {
         cost(8, "@+++B", ".###.", ".....");
         cost(10, "@+++B", ".###.", ".###.", "....+");
         cost(5, "@+..", ".#.#", "...B");
+        cost(7, "@++..B", "....##");
+        cost(9, "@++....B", "....####");
+        cost(9, "@++++..B", ".......#");
+        cost(12, "@+++..B", ".###.##", ".###.##", ".....##");
+        cost(13, "@+++...B", "####.###", ".+......");
         cost(22, "@...........", "............", "............", "............", "............", "............",
                 "............", "............", "............", "............", "............", "...........B");
+    }
+
+    /** A cave of doors alone, but for the hero's cell in the middle and those of the beasts. */
+    private static void doorsAllOver() {
+        for (char sign : "+012".toCharArray()) {
+            DelveKeep keep = new DelveKeep();
+            for (int spot = 0; spot < 144; spot++) {
+                keep.dig(spot / 12, spot % 12, sign);
+            }
+            keep.dig(5, 5, '.');
+            keep.setHero(5, 5, 12, 30);
+            int[][] places = {{11, 8}, {11, 2}, {0, 1}, {0, 9}, {5, 11}, {8, 11}, {2, 0}};
+            for (int[] place : places) {
+                keep.dig(place[0], place[1], '.');
+                keep.addBeast(place[0], place[1], 1, 0, 30);
+            }
+            keep.begin(0);
+            int[] due = {16, 22, 23, 25};
+            int[] heard = {1, 2, 3, 7};
+            for (int i = 0; i < due.length; i++) {
+                Check.is(due[i] - 1 + " through doors all over", keep.shout(due[i] - 1), i == 0 ? 0 : heard[i - 1]);
+                Check.is(due[i] + " through doors all over", keep.shout(due[i]), heard[i]);
+            }
+        }
     }
 
     private static void noWayNoSound() {
@@ -136,13 +166,17 @@ public final class SoundEdgesTest {
     private static void allSevenHear() {
         for (int beasts = 0; beasts <= 7; beasts++) {
             DelveKeep keep = Keeps.open();
+            keep.setHero(7, 4, 12, 30);
             for (int beast = 1; beast <= beasts; beast++) {
-                keep.addBeast(2 * beast - 3 < 0 ? 1 : 2 * beast - 3, beast, 1, 0, 30);
+                keep.addBeast(beast, 9, 1, 0, 30);
             }
             keep.begin(0);
+            for (int beast = 1; beast <= beasts; beast++) {
+                Check.is("no aim of " + beast, Keeps.aim(keep, beast), -1);
+            }
             Check.is("all of " + beasts, keep.shout(30), beasts);
             for (int beast = 1; beast <= beasts; beast++) {
-                Check.is("aim of " + beast, keep.aimOf(beast), 0);
+                Check.is("aim of " + beast, keep.aimOf(beast), 704);
             }
         }
         DelveKeep row = Keeps.dug("@...........");

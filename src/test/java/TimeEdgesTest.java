@@ -39,6 +39,8 @@ public final class TimeEdgesTest {
                 Check.is("speed " + speed + ", turn " + turn, keep.rest(), tickOf(turn, speed));
                 Check.is("speed " + speed + ", tick " + turn, keep.tick(), tickOf(turn, speed));
             }
+            Check.is("speed " + speed + ", left", keep.leave(), tickOf(40, speed));
+            Check.is("speed " + speed + ", tick when left", keep.tick(), tickOf(40, speed));
         }
     }
 

@@ -17,6 +17,8 @@ public final class WorldEdgesTest {
         temperBeginsAnew();
         bonesOfNoneToAll();
         bonesOfOneWhoCarriedNothing();
+        bonesAreWhatWasCarried();
+        bonesOnEachCell();
         bonesOnFreeCellsAlone();
         bonesOfTheLastAlone();
         bonesOfBagsInBags();
@@ -301,6 +303,57 @@ public final class WorldEdgesTest {
         early.begin(0);
         Check.is("bones ahead of a turn", early.whereIs(0), 100);
         Check.is("dead again", early.state(), 'd');
+    }
+
+    /** What lies where the hero dies, but was not carried, is as told in the next world. */
+    private static void bonesAreWhatWasCarried() {
+        DelveKeep keep = mortal("@..", 7, 6, 0, 1, 2);
+        keep.begin(0);
+        for (int thing = 0; thing < 6; thing++) {
+            keep.take(thing);
+        }
+        keep.pack(3, 2);
+        keep.go(1);
+        keep.drop(1);
+        keep.pack(4, 2);
+        keep.drop(2);
+        keep.drink(0);
+        int[] dead = {-2, 100, 100, -5, -5, 100};
+        int[] anew = {0, 0, 0, 0, 0, 100};
+        for (int thing = 0; thing < 6; thing++) {
+            Check.is("dead beside it, thing " + thing, keep.whereIs(thing), dead[thing]);
+        }
+        keep.begin(0);
+        for (int thing = 0; thing < 6; thing++) {
+            Check.is("as told but for the hands, thing " + thing, keep.whereIs(thing), anew[thing]);
+        }
+    }
+
+    /** The hero takes two things, goes a step and dies there: for each of the 144 cells. */
+    private static void bonesOnEachCell() {
+        for (int spot = 0; spot < 144; spot++) {
+            int x = spot / 12;
+            int y = spot % 12;
+            int way = y < 11 ? 0 : 2;
+            int fromY = y < 11 ? y + 1 : y - 1;
+            DelveKeep keep = Keeps.open();
+            keep.setHero(x, fromY, 12, 20);
+            keep.setEffect(3, 'd', 20, 0);
+            for (int kind : new int[] {3, 7, 6}) {
+                keep.addThing(kind, x, fromY, -1);
+            }
+            keep.begin(0);
+            for (int thing = 0; thing < 3; thing++) {
+                keep.take(thing);
+            }
+            keep.go(way);
+            keep.drink(0);
+            Check.is("dead at " + x + " " + y, keep.whereIs(1), 100 * x + y);
+            keep.begin(0);
+            Check.is("bones at " + x + " " + y, keep.whereIs(1), 100 * x + y);
+            Check.is("bones at " + x + " " + y + ", a bag", keep.whereIs(2), 100 * x + y);
+            Check.is("as told at " + x + " " + y, keep.whereIs(0), 100 * x + fromY);
+        }
     }
 
     /** "if the cell of the bones is free as told" */
